@@ -13,6 +13,7 @@ public final class CasesTest {
         promise35Refusals();
         promise36New();
         promise36Parts();
+        promise36Full();
         promise36Asks();
         Check.end("CasesTest");
     }
@@ -183,6 +184,43 @@ public final class CasesTest {
                 0, 0, 0, 0, 2000, 0, 0, 0, 0, 0, 0, 0, 0, 0, 1, 0, 0, 0, 0, 1,
                 0, 60, 0, 1, 2, 1, 0, 0,
                 1, 0, 0, 0, 2, 1, 2, 0));
+    }
+
+    /** As full as a model can be: the checksum is that of what all calls answer. */
+    private static void promise36Full() {
+        Waterline w = withVariables(16);
+        while (w.units() < 12) {
+            w.unit(1, 0, 0, 0, w.units(), 1);
+        }
+        int last = w.join(SUM, 14, 15);
+        while (w.parts() < 60) {
+            last = w.join(w.parts() % 2 == 0 ? SUM : 6, last, w.parts() % 16);
+        }
+        for (int v = 0; v < 14; v += 3) {
+            w.define(v, last - v);
+        }
+        w.define(1, w.parts() - 1);
+        w.set(2, 700);
+        w.set(15, -4);
+        long d = checksum(12, 16, 60, w.faults(), w.circles(), w.mostTurns(), w.broken());
+        for (int part = 0; part < 60; part++) {
+            for (int dimension = 0; dimension < 4; dimension++) {
+                d = d * 31 + w.exponent(part, dimension);
+            }
+            d = d * 31 + w.worth(part);
+        }
+        for (int fault = 0; fault < w.faults(); fault++) {
+            d = ((d * 31 + w.ofFault(fault, 0)) * 31 + w.ofFault(fault, 1)) * 31 + w.ofFault(fault, 2);
+        }
+        for (int v = 0; v < 16; v++) {
+            d = (d * 31 + w.leansOn(v)) * 31 + w.amount(v);
+            d = (d * 31 + (w.isBroken(v) ? 1 : 0)) * 31 + w.movedBy(v);
+        }
+        for (int k = 0; k < w.circles(); k++) {
+            d = (d * 31 + w.circle(k, 0)) * 31 + w.circle(k, 1);
+            d = (d * 31 + w.circle(k, 2)) * 31 + w.circle(k, 3);
+        }
+        Check.due("36 of all that is answered", w.digest(), d);
     }
 
     /** It is the same, whatever has been asked before. */
