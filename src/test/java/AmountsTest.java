@@ -21,17 +21,8 @@ public final class AmountsTest {
         Check.end("AmountsTest");
     }
 
-    private static Waterline withVariables(int many) {
-        Waterline w = new Waterline();
-        for (int k = 0; k < many; k++) {
-            w.variable(0);
-            w.of(k);
-        }
-        return w;
-    }
-
     private static void promise22Amount() {
-        Waterline w = withVariables(2);
+        Waterline w = Models.withVariables(2);
         w.set(0, 1234);
         Check.due("22 of an INPUT", w.amount(0), 1234);
         w.define(1, w.join(TIMES, 0, 0));
@@ -46,7 +37,7 @@ public final class AmountsTest {
 
     /** 2 to the 50th ways lead to the first part. */
     private static void promise22SharedParts() {
-        Waterline w = withVariables(2);
+        Waterline w = Models.withVariables(2);
         int last = 0;
         for (int k = 0; k < 50; k++) {
             last = w.join(k % 2 == 0 ? LEAST : MOST, last, last);
@@ -57,7 +48,7 @@ public final class AmountsTest {
     }
 
     private static void promise22LazyIf() {
-        Waterline w = withVariables(3);
+        Waterline w = Models.withVariables(3);
         int one = w.number(1000, 0);
         int byFirst = w.join(PER, one, 0);
         w.define(1, w.when(0, byFirst, one));
@@ -73,7 +64,7 @@ public final class AmountsTest {
     }
 
     private static void promise22AheadOfItsTurn() {
-        Waterline w = withVariables(4);
+        Waterline w = Models.withVariables(4);
         w.define(0, 1);
         w.define(1, 2);
         w.define(2, w.join(SUM, 3, 3));
@@ -121,7 +112,7 @@ public final class AmountsTest {
     }
 
     private static void promise24IsBroken() {
-        Waterline w = withVariables(4);
+        Waterline w = Models.withVariables(4);
         int one = w.number(1000, 0);
         w.define(1, w.join(PER, one, 0));
         w.define(2, w.join(SUM, 1, one));
@@ -143,7 +134,7 @@ public final class AmountsTest {
     }
 
     private static void promise25Worth() {
-        Waterline w = withVariables(2);
+        Waterline w = Models.withVariables(2);
         int one = w.number(1000, 0);
         int per = w.join(PER, one, 0);
         int above = w.join(SUM, per, one);
@@ -172,7 +163,7 @@ public final class AmountsTest {
     }
 
     private static void promise26Broken() {
-        Waterline w = withVariables(3);
+        Waterline w = Models.withVariables(3);
         Check.due("26 none", w.broken(), 0);
         w.define(1, w.join(PER, 0, 0));
         w.define(2, 1);

@@ -18,17 +18,8 @@ public final class CasesTest {
         Check.end("CasesTest");
     }
 
-    private static Waterline withVariables(int many) {
-        Waterline w = new Waterline();
-        for (int k = 0; k < many; k++) {
-            w.variable(0);
-            w.of(k);
-        }
-        return w;
-    }
-
     private static void promise33Keep() {
-        Waterline w = withVariables(1);
+        Waterline w = Models.withVariables(1);
         Check.due("33 one", w.keep(3), 1);
         Check.due("33 two", w.keep(0), 2);
         w.set(0, 5);
@@ -44,7 +35,7 @@ public final class CasesTest {
     }
 
     private static void promise34Load() {
-        Waterline w = withVariables(3);
+        Waterline w = Models.withVariables(3);
         w.set(0, 1);
         w.set(1, 2);
         w.keep(0);
@@ -77,7 +68,7 @@ public final class CasesTest {
     }
 
     private static void promise34Formulas() {
-        Waterline w = withVariables(2);
+        Waterline w = Models.withVariables(2);
         w.set(0, 7);
         w.set(1, 8);
         w.keep(0);
@@ -98,7 +89,7 @@ public final class CasesTest {
     }
 
     private static void promise34Later() {
-        Waterline w = withVariables(1);
+        Waterline w = Models.withVariables(1);
         w.set(0, 3);
         w.keep(0);
         w.variable(0);
@@ -110,7 +101,7 @@ public final class CasesTest {
     }
 
     private static void promise34Refusals() {
-        Waterline w = withVariables(1);
+        Waterline w = Models.withVariables(1);
         w.keep(1);
         Check.noState("34 no CASE", () -> w.load(0));
         for (int place : new int[] {4, -1, Integer.MIN_VALUE, Integer.MAX_VALUE}) {
@@ -119,7 +110,7 @@ public final class CasesTest {
     }
 
     private static void promise35AmountOf() {
-        Waterline w = withVariables(3);
+        Waterline w = Models.withVariables(3);
         w.set(0, 2000);
         w.keep(0);
         w.set(0, 4000);
@@ -138,7 +129,7 @@ public final class CasesTest {
     }
 
     private static void promise35Refusals() {
-        Waterline w = withVariables(1);
+        Waterline w = Models.withVariables(1);
         w.keep(1);
         Check.noState("35 no CASE", () -> w.amountOf(0, 0));
         Check.noIndex("35 no such variable", () -> w.amountOf(1, 1));
@@ -188,7 +179,7 @@ public final class CasesTest {
 
     /** As full as a model can be: the checksum is that of what all calls answer. */
     private static void promise36Full() {
-        Waterline w = withVariables(16);
+        Waterline w = Models.withVariables(16);
         while (w.units() < 12) {
             w.unit(1, 0, 0, 0, w.units(), 1);
         }
@@ -225,8 +216,8 @@ public final class CasesTest {
 
     /** It is the same, whatever has been asked before. */
     private static void promise36Asks() {
-        Waterline asked = withVariables(3);
-        Waterline silent = withVariables(3);
+        Waterline asked = Models.withVariables(3);
+        Waterline silent = Models.withVariables(3);
         for (int k = 0; k < 20; k++) {
             asked.digest();
             asked.set(0, k);

@@ -20,17 +20,8 @@ public final class CirclesTest {
         Check.end("CirclesTest");
     }
 
-    private static Waterline withVariables(int many) {
-        Waterline w = new Waterline();
-        for (int k = 0; k < many; k++) {
-            w.variable(0);
-            w.of(k);
-        }
-        return w;
-    }
-
     private static void promise18LeansOn() {
-        Waterline w = withVariables(5);
+        Waterline w = Models.withVariables(5);
         int never = w.when(w.number(0, 0), 3, 1);
         Check.due("18 an INPUT", w.leansOn(0), 0);
         w.define(0, never);
@@ -45,7 +36,7 @@ public final class CirclesTest {
     }
 
     private static void promise19Circles() {
-        Waterline w = withVariables(3);
+        Waterline w = Models.withVariables(3);
         Check.due("19 each alone", w.circles(), 3);
         w.define(0, 1);
         w.define(1, 2);
@@ -57,7 +48,7 @@ public final class CirclesTest {
     }
 
     private static void promise20Order() {
-        Waterline w = withVariables(6);
+        Waterline w = Models.withVariables(6);
         w.define(0, 5);
         w.define(1, 4);
         w.define(4, w.join(SUM, 1, 3));
@@ -77,7 +68,7 @@ public final class CirclesTest {
     }
 
     private static void promise20Turns() {
-        Waterline w = withVariables(2);
+        Waterline w = Models.withVariables(2);
         int half = w.join(TIMES, w.number(500, 0), 1);
         w.define(1, w.join(SUM, 0, half));
         w.set(0, 1000);
@@ -90,7 +81,7 @@ public final class CirclesTest {
 
     /** The variable 1 becomes itself and the variable 0. */
     private static void promise20Open() {
-        Waterline w = withVariables(2);
+        Waterline w = Models.withVariables(2);
         w.define(1, w.join(SUM, 0, 1));
         w.set(0, 11);
         Check.due("20 the 40th is the last", w.circle(1, 2), 40);
@@ -106,7 +97,7 @@ public final class CirclesTest {
 
     /** It counts up to a bound that it reaches in the 39th turn, or in the 40th. */
     private static void solvedInTheLastTurn() {
-        Waterline w = withVariables(2);
+        Waterline w = Models.withVariables(2);
         w.define(1, w.join(6, w.join(SUM, 1, w.number(1, 0)), 0));
         w.set(0, 39);
         Check.due("20 the 40th turn is made", w.circle(1, 2), 40);
@@ -118,7 +109,7 @@ public final class CirclesTest {
 
     /** 1 / (2 - x): 0.5, 0.666, 0.749, .. or with another start a division by 0. */
     private static void promise20Broken() {
-        Waterline w = withVariables(3);
+        Waterline w = Models.withVariables(3);
         int two = w.number(2000, 0);
         int below = w.join(REST, two, 1);
         w.define(1, w.join(SUM, w.join(PER, 0, below), w.join(TIMES, w.number(0, 0), 2)));
@@ -133,7 +124,7 @@ public final class CirclesTest {
     }
 
     private static void promise20Fault() {
-        Waterline w = withVariables(3);
+        Waterline w = Models.withVariables(3);
         w.unit(1, 0, 0, 0, 1, 1);
         w.variable(1);
         int length = w.of(3);
@@ -151,7 +142,7 @@ public final class CirclesTest {
 
     /** Each takes what those ahead of it have become in the same turn. */
     private static void promise20ByNumbers() {
-        Waterline w = withVariables(3);
+        Waterline w = Models.withVariables(3);
         int one = w.number(1, 0);
         w.define(0, w.join(SUM, 2, one));
         w.define(1, w.join(SUM, 0, one));
@@ -168,7 +159,7 @@ public final class CirclesTest {
 
     /** What comes later has no part in the turns. */
     private static void promise20TurnsOfItsOwn() {
-        Waterline w = withVariables(3);
+        Waterline w = Models.withVariables(3);
         w.define(0, w.join(SUM, w.number(1000, 0), w.join(TIMES, 0, w.number(500, 0))));
         w.define(1, w.join(PER, 0, 2));
         Check.due("20 one that comes later is BROKEN", w.broken(), 1);
@@ -179,7 +170,7 @@ public final class CirclesTest {
     }
 
     private static void promise20Refusals() {
-        Waterline w = withVariables(2);
+        Waterline w = Models.withVariables(2);
         Check.noIndex("20 no circle 2", () -> w.circle(2, 0));
         Check.noIndex("20 no circle -1", () -> w.circle(-1, 0));
         Check.noArgument("20 what 4", () -> w.circle(0, 4));
@@ -189,7 +180,7 @@ public final class CirclesTest {
     }
 
     private static void promise21MostTurns() {
-        Waterline w = withVariables(4);
+        Waterline w = Models.withVariables(4);
         Check.due("21 none", w.mostTurns(), 0);
         w.set(0, 1);
         w.define(1, w.join(SUM, 1, 0));

@@ -23,17 +23,8 @@ public final class GoalsTest {
         Check.end("GoalsTest");
     }
 
-    private static Waterline withVariables(int many) {
-        Waterline w = new Waterline();
-        for (int k = 0; k < many; k++) {
-            w.variable(0);
-            w.of(k);
-        }
-        return w;
-    }
-
     private static void promise27Seek() {
-        Waterline w = withVariables(3);
+        Waterline w = Models.withVariables(3);
         w.define(1, w.join(TIMES, 0, 0));
         Check.due("27 a square", w.seek(0, 1, 9000, 0, 100000), 3000);
         Check.due("27 the first that is not less", w.seek(0, 1, 9001, 0, 100000), 3001);
@@ -51,7 +42,7 @@ public final class GoalsTest {
     }
 
     private static void promise27Broken() {
-        Waterline w = withVariables(2);
+        Waterline w = Models.withVariables(2);
         w.define(1, w.root(0));
         Check.due("27 BROKEN is as less", w.seek(0, 1, -5, -1000, 1000), 0);
         w.define(1, w.join(PER, w.number(1000, 0), 0));
@@ -59,7 +50,7 @@ public final class GoalsTest {
     }
 
     private static void promise27Refusals() {
-        Waterline w = withVariables(2);
+        Waterline w = Models.withVariables(2);
         w.define(1, 0);
         Check.noIndex("27 no such input", () -> w.seek(2, 1, 0, 0, 0));
         Check.noIndex("27 no input -1", () -> w.seek(-1, 1, 0, 0, 0));
@@ -75,7 +66,7 @@ public final class GoalsTest {
     }
 
     private static void promise28AmountWith() {
-        Waterline w = withVariables(4);
+        Waterline w = Models.withVariables(4);
         w.define(1, w.join(SUM, 0, 2));
         w.define(3, w.root(0));
         w.set(2, 5);
@@ -92,7 +83,7 @@ public final class GoalsTest {
     }
 
     private static void promise28Refusals() {
-        Waterline w = withVariables(2);
+        Waterline w = Models.withVariables(2);
         w.define(1, 0);
         Check.noIndex("28 no such input", () -> w.amountWith(2, 0, 0));
         Check.noIndex("28 no input -1", () -> w.amountWith(-1, 0, 0));
@@ -106,7 +97,7 @@ public final class GoalsTest {
     }
 
     private static void promise29Slope() {
-        Waterline w = withVariables(4);
+        Waterline w = Models.withVariables(4);
         w.define(1, w.join(TIMES, 0, 0));
         w.set(0, 3000);
         Check.due("29 of a square", w.slope(0, 1, 1000), 6.0);
@@ -127,7 +118,7 @@ public final class GoalsTest {
     }
 
     private static void promise29Refusals() {
-        Waterline w = withVariables(2);
+        Waterline w = Models.withVariables(2);
         w.define(1, 0);
         Check.noIndex("29 no such input", () -> w.slope(2, 0, 1));
         Check.noIndex("29 no input -1", () -> w.slope(-1, 0, 1));
@@ -142,7 +133,7 @@ public final class GoalsTest {
     }
 
     private static void promise30MovedBy() {
-        Waterline w = withVariables(5);
+        Waterline w = Models.withVariables(5);
         w.define(2, w.join(SUM, 0, 1));
         Check.due("30 both", w.movedBy(2), 3);
         Check.due("30 itself, as an INPUT", w.movedBy(3), 8);
@@ -172,7 +163,7 @@ public final class GoalsTest {
     }
 
     private static void movedByChanges() {
-        Waterline w = withVariables(3);
+        Waterline w = Models.withVariables(3);
         w.define(0, 1);
         Check.due("30 the first", w.movedBy(0), 2);
         w.define(0, 2);
@@ -182,7 +173,7 @@ public final class GoalsTest {
     }
 
     private static void wholeCircleIsMoved() {
-        Waterline w = withVariables(4);
+        Waterline w = Models.withVariables(4);
         int half = w.number(500, 0);
         w.define(1, w.join(SUM, 0, w.join(TIMES, half, 2)));
         w.define(2, w.join(TIMES, half, 1));
@@ -193,7 +184,7 @@ public final class GoalsTest {
     }
 
     private static void promise31Best() {
-        Waterline w = withVariables(3);
+        Waterline w = Models.withVariables(3);
         w.define(1, w.join(REST, w.number(100000, 0), w.join(TIMES, 0, 0)));
         Check.due("31 the greatest", w.best(0, 1, -5000, 1000, 20), 5);
         Check.due("31 of several the first", w.best(0, 1, -2500, 1000, 20), 2);
@@ -213,7 +204,7 @@ public final class GoalsTest {
     }
 
     private static void promise31Refusals() {
-        Waterline w = withVariables(2);
+        Waterline w = Models.withVariables(2);
         w.define(1, 0);
         Check.noIndex("31 no such input", () -> w.best(2, 0, 0, 0, 1));
         Check.noIndex("31 no input -1", () -> w.best(-1, 0, 0, 0, 1));
@@ -233,7 +224,7 @@ public final class GoalsTest {
 
     /** Each asks just after another INPUT has been tried. */
     private static void trialsLeaveNothing() {
-        Waterline w = withVariables(3);
+        Waterline w = Models.withVariables(3);
         w.define(2, w.join(SUM, 0, w.join(TIMES, 1, 1)));
         w.set(1, 2000);
         w.amountWith(1, 2, 50000);
@@ -251,7 +242,7 @@ public final class GoalsTest {
 
     /** The variable 0 stands between, or at the end. */
     private static void alongTheWayOfTheFirst() {
-        Waterline w = withVariables(3);
+        Waterline w = Models.withVariables(3);
         w.define(0, 2);
         w.define(1, 0);
         Check.due("28 by way of the first", w.amountWith(2, 1, 5), 5);
@@ -260,7 +251,7 @@ public final class GoalsTest {
     }
 
     private static void nothingIsChanged() {
-        Waterline w = withVariables(3);
+        Waterline w = Models.withVariables(3);
         w.define(1, w.join(SUM, 0, w.join(TIMES, w.number(500, 0), 1)));
         w.define(2, w.join(PER, 1, 0));
         w.set(0, 8000);
