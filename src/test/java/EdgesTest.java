@@ -31,6 +31,7 @@ public final class EdgesTest {
         promise17Most();
         promise18All();
         promise19Counts();
+        promise21Edges();
         promise23Edges();
         promise25Last();
         promise26All();
@@ -283,6 +284,23 @@ public final class EdgesTest {
         Check.due("19 in pairs", w.circles(), 8);
         Check.due("20 the last pair", w.circle(7, 0), 3 << 14);
         Check.noIndex("20 just beyond", () -> w.circle(8, 0));
+    }
+
+    private static void promise21Edges() {
+        Check.due("21 nothing in it", new Waterline().mostTurns(), 0);
+        Waterline w = Models.withVariables(16);
+        Check.due("21 as many CIRCLES as can be, none ROUND", w.mostTurns(), 0);
+        for (int v = 0; v < 16; v++) {
+            w.define(v, v);
+        }
+        Check.due("21 all of them ROUND", w.mostTurns(), 1);
+        w.define(15, w.join(SUM, 15, w.number(1, 0)));
+        Check.due("21 the last one has the most", w.mostTurns(), 40);
+        Check.due("20 which are its own", w.circle(15, 2), 40);
+        w.define(15, 0);
+        w.define(0, 15);
+        Check.due("19 one less", w.circles(), 15);
+        Check.due("21 nothing of the one that is no more", w.mostTurns(), 1);
     }
 
     private static void promise23Edges() {
